@@ -4,6 +4,8 @@ public final class ChainsTest {
         leadsToItself();
         leadsOverOthers();
         meetsCircleElsewhere();
+        anyOrderOfSchemas();
+        anyPlaceOfLists();
         circleWithAStepElsewhere();
         leadsWithoutBeingJudged();
         circleOfAll();
@@ -88,6 +90,56 @@ public final class ChainsTest {
         }
     }
 
+    /** The way first, second, third, with a circle at the end of it, for all orders of three schemas. */
+    private static void anyOrderOfSchemas() {
+        for (int way = 0; way < 27; way++) {
+            int first = way % 3;
+            int second = way / 3 % 3;
+            int third = way / 9;
+            if (first == second || second == third || first == third) {
+                continue;
+            }
+            SchemaJudge x = withSchemas(3);
+            x.make(0);
+            x.rule(first, 22, second);
+            x.rule(second, 22, third);
+            Check.due("no circle at the end", Check.outcome(() -> x.judge(first, 0)), true);
+            x.rule(third, 21, third);
+            Check.state("a circle at the end", () -> x.judge(first, 0));
+            SchemaJudge y = withSchemas(3);
+            y.make(0);
+            y.rule(first, 21, second);
+            y.rule(second, 21, third);
+            Check.due("no circle of three", Check.outcome(() -> y.judge(first, 0)), true);
+            y.rule(third, 21, first);
+            Check.state("a circle of three", () -> y.judge(first, 0));
+        }
+    }
+
+    private static void anyPlaceOfLists() {
+        for (int keyword = 29; keyword <= 32; keyword++) {
+            for (int place = 0; place < 3; place++) {
+                SchemaJudge x = withSchemas(3);
+                x.make(0);
+                for (int k = 0; k < 3; k++) {
+                    x.list(0, keyword, k == place ? 1 : 2);
+                }
+                Check.due("no circle by the list " + keyword, Check.outcome(() -> x.judge(0, 0)), keyword != 31);
+                x.rule(1, 21, 1);
+                Check.state("a circle at place " + place + " of the list " + keyword, () -> x.judge(0, 0));
+            }
+        }
+        for (int name = 0; name < 12; name++) {
+            for (int keyword = 33; keyword <= 34; keyword++) {
+                SchemaJudge x = withSchemas(2);
+                x.make(0);
+                x.rule(1, 21, 1);
+                x.named(0, keyword, name, 1);
+                Check.state("a circle by name " + name + " of " + keyword, () -> x.judge(0, 0));
+            }
+        }
+    }
+
     private static void circleWithAStepElsewhere() {
         for (int keyword : ELSEWHERE) {
             SchemaJudge x = withSchemas(3);
@@ -116,7 +168,9 @@ public final class ChainsTest {
         x.named(0, 34, 11, 0);
         Check.state("WITH of a member that is not there leads", () -> x.judge(0, 0));
         x.named(0, 34, 11, -1);
-        x.named(0, 35, 0, 1);
+        for (int name = 0; name < 12; name++) {
+            x.named(0, 35, name, name % 2);
+        }
         x.rule(1, 24, 1);
         x.rule(1, 25, 1);
         x.rule(1, 16, 2);

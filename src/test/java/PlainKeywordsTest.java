@@ -92,15 +92,22 @@ public final class PlainKeywordsTest {
         for (int v = 0; v < 11; v++) {
             holds(x, 2, 10, v, false);
         }
-        x.push(10, 9);
-        x.push(10, 4);
-        x.push(10, 9);
+        int[] elements = {9, 4, 9, 0, 7, 4, 5};
+        for (int v : elements) {
+            x.push(10, v);
+        }
         for (int v = 0; v < 11; v++) {
-            holds(x, 2, 10, v, v == 8 || v == 9 || v == 4);
+            holds(x, 2, 10, v, v == 8 || v == 9 || v == 4 || v == 0 || v == 7 || v == 5);
         }
         x.rule(0, 2, 10);
         x.push(10, 1);
-        Check.due("enumeration: the row has grown", x.judge(0, 1), true);
+        Check.due("enumeration: the row has grown to eight", x.judge(0, 1), true);
+        x.make(4);
+        x.push(11, 3);
+        x.push(11, 2);
+        holds(x, 2, 11, 3, true);
+        holds(x, 2, 11, 2, true);
+        holds(x, 2, 11, 1, false);
     }
 
     private static void bounds() {

@@ -23,6 +23,7 @@ public final class SchemasTest {
         list();
         named();
         namedTakenAway();
+        keywordsStandApart();
         Check.end();
     }
 
@@ -246,6 +247,30 @@ public final class SchemasTest {
             Check.due("named: taken away", x.judge(0, MEMBERS), true);
             x.named(0, keyword, 4, keyword == 35 ? 4095 : 1);
             Check.due("named: that member is not there", x.judge(0, MEMBERS), true);
+        }
+    }
+
+    /** Each keyword of the middle one of three schemas is set alone: only there does it say something. */
+    private static void keywordsStandApart() {
+        int[][] failing = {{0, 0}, {1, NOTHING}, {2, ROW}, {14, 12}, {16, 4095}, {17, 3}, {18, 3}, {21, 4}, {26, 4}, {27, 4},
+            {29, 4}, {30, 4}, {31, 4}, {33, 4}, {34, 4}, {35, 4095}};
+        for (int[] of : failing) {
+            for (int name = 0; name < 12; name++) {
+                SchemaJudge x = worldOf(5);
+                x.rule(4, 0, 0);
+                x.put(MEMBERS, name, NOTHING);
+                if (of[0] >= 33) {
+                    x.named(1, of[0], name, of[1]);
+                } else if (of[0] >= 29) {
+                    x.list(1, of[0], of[1]);
+                } else {
+                    x.rule(1, of[0], of[1]);
+                }
+                for (int s = 0; s < 3; s++) {
+                    boolean due = s != 1 || of[0] == 18;
+                    Check.due("keyword " + of[0] + " of schema 1, judged by " + s, x.judge(s, MEMBERS), due);
+                }
+            }
         }
     }
 }

@@ -254,7 +254,7 @@ public final class ValuesTest {
         x.number(1, 0);
         x.number(10, -1);
         x.number(2, 0);
-        int[][] rows = {{0, 2}, {1, 2}, {2, 0}, {0}, {0, 2, 2}};
+        int[][] rows = {{0, 2}, {1, 2}, {2, 0}, {0}, {0, 2, 2}, {2, 2}};
         for (int[] row : rows) {
             int r = x.make(4);
             for (int v : row) {
@@ -265,14 +265,15 @@ public final class ValuesTest {
         Check.due("equal: the other order", x.equal(3, 5), false);
         Check.due("equal: shorter", x.equal(3, 6), false);
         Check.due("equal: longer", x.equal(3, 7), false);
+        Check.due("equal: another first element", x.equal(3, 8), false);
         x.make(4);
         x.make(4);
-        x.push(8, 3);
+        x.push(9, 3);
+        x.push(10, 4);
+        Check.due("equal: rows of rows", x.equal(9, 10), true);
+        x.push(10, 5);
         x.push(9, 4);
-        Check.due("equal: rows of rows", x.equal(8, 9), true);
-        x.push(9, 5);
-        x.push(8, 4);
-        Check.due("equal: rows of other rows", x.equal(8, 9), false);
+        Check.due("equal: rows of other rows", x.equal(9, 10), false);
     }
 
     private static void equalMembers() {
@@ -301,6 +302,24 @@ public final class ValuesTest {
         x.make(5);
         x.put(9, 0, 0);
         Check.due("equal: a row and members", x.equal(8, 9), false);
+        eachNameCounts();
+    }
+
+    private static void eachNameCounts() {
+        for (int name = 0; name < 12; name++) {
+            SchemaJudge x = new SchemaJudge();
+            x.make(0);
+            x.truth(true);
+            x.make(5);
+            x.make(5);
+            for (int other = 0; other < 12; other++) {
+                x.put(2, other, 0);
+                x.put(3, other, other == name ? 1 : 0);
+            }
+            Check.due("equal: another member of name " + name, x.equal(2, 3), false);
+            x.put(3, name, 0);
+            Check.due("equal: the same member of name " + name, x.equal(2, 3), true);
+        }
     }
 
     private static void equalAfterChanges() {
