@@ -6,6 +6,7 @@ final class Check {
 
     private static int checks = 0;
     private static int wrong = 0;
+    private static String tested = "";
 
     private Check() {
     }
@@ -14,8 +15,20 @@ final class Check {
         checks++;
         if (!want.equals(got)) {
             wrong++;
-            System.out.println(call + " answered " + got + ", due is " + want);
+            System.out.println(tested + call + " answered " + got + ", due is " + want);
         }
+    }
+
+    /** Runs the test of one sentence of the document; what is wrong in it is told with the sentence's words. */
+    static void sentence(String words, Runnable test) {
+        tested = "[" + words + "] ";
+        int before = checks;
+        due("the test", outcome(() -> {
+            test.run();
+            return "ended";
+        }), "ended");
+        due("checks were made", checks > before + 1, true);
+        tested = "";
     }
 
     /** What a call answers, or the name of the exception that it throws. */

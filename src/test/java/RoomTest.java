@@ -52,7 +52,7 @@ public final class RoomTest {
 
     private static long dearestRun(SchemaJudge x) {
         long sum = 0;
-        for (int n = 0; n < 60; n++) {
+        for (int n = 0; n < 40; n++) {
             sum += x.judge(n % 24, 14) ? 1 : 0;
             sum += x.faults();
             sum += x.fault(x.faults() - 1);

@@ -244,8 +244,9 @@ public final class ValuesTest {
         x.number(0, 3);
         x.number(0, -3);
         Check.due("equal: 0", x.equal(9, 10), true);
+        // They differ by 2^32 thousandths.
         x.number(4295, 3);
-        x.number(33, 0);
+        x.number(32704, -3);
         Check.due("equal: no wrapping", x.equal(11, 12), false);
     }
 
