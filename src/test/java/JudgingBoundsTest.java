@@ -36,6 +36,8 @@ public final class JudgingBoundsTest {
             JudgingBoundsTest::marksInPlace);
         Check.sentence("Terms: (not NOT)", JudgingBoundsTest::noMarksOfNot);
         Check.sentence("Terms: for 27 and 28 these count as MARKED", JudgingBoundsTest::countAsMarked);
+        Check.sentence("Terms: for 27 and 28 these count, also if the keyword does not hold",
+            JudgingBoundsTest::countThoughNotHeld);
         Check.sentence("Terms: if there is one of the two, those without a mark get one, too",
             JudgingBoundsTest::marksOfTheTwo);
         Check.sentence("Terms: Not valid, it has none", JudgingBoundsTest::noMarksIfNotValid);
@@ -255,6 +257,38 @@ public final class JudgingBoundsTest {
             c.due(keyword == 26 ? -1 : 0).marks(U, TEXT);
             c.due(3).marks(S, v);
         }
+    }
+
+    /** What is marked is what PREFIX, PROPERTY, .. speak of: the words do not ask whether it is valid. */
+    private static void countThoughNotHeld() {
+        for (int keyword : new int[] {22, 32, 26, 33}) {
+            Calls c = world();
+            int v = keyword == 22 || keyword == 32 ? c.row(TEXT) : c.members(0, TEXT);
+            c.says(S, keyword, NUMBERS);
+            c.rule(S, 27, U);
+            c.rule(S, 28, U);
+            c.due(false).judge(S, v);
+            c.allFaults(Calls.code(TEXT, NUMBERS, 0), Calls.code(v, S, keyword));
+            c.due(-1).marks(U, TEXT);
+            c.due(0).marks(S, v);
+        }
+        Calls c = world();
+        int r = c.row(NUMBER, NUMBER, TEXT);
+        c.rule(S, 23, NUMBERS);
+        c.rule(S, 25, 1);
+        c.rule(S, 28, U);
+        c.due(false).judge(S, r);
+        c.due(-1).marks(U, NUMBER);
+        c.due(0).marks(U, TEXT);
+        int m = c.members(0, NUMBER, 1, TEXT);
+        c.rule(S, 27, U);
+        c.named(T, 33, 0, YES);
+        c.list(S, 31, T);
+        c.list(S, 31, YES);
+        c.due(false).judge(S, m);
+        c.allFaults(Calls.code(m, S, 31));
+        c.due(-1).marks(U, NUMBER);
+        c.due(0).marks(U, TEXT);
     }
 
     /** OTHERS for members, REST for elements: none there, none marked, some marked, all marked. */
@@ -590,21 +624,21 @@ public final class JudgingBoundsTest {
 
     /** Each of the values is judged by three schemas in place: the chain has thrice as many pairs as values. */
     private static void pairsInPlaceAndElsewhere() {
-        for (int spare = 0; spare < 2; spare++) {
-            Calls c = tower(12);
-            c.rule(S, 21, T);
-            c.list(T, 29, U);
-            c.rule(U, 28, S);
-            c.due(true).judge(S, FIRST_OWN + 9);
-            c.due(Calls.UNSUPPORTED).judge(U, FIRST_OWN + 10);
-            c.due(true).judge(T, FIRST_OWN + 9);
-            c.due(Calls.UNSUPPORTED).judge(T, FIRST_OWN + 10);
-            c.rule(S, 17, NO);
-            c.rule(S, 18, spare == 0 ? YES : NO);
-            c.due(true).judge(S, FIRST_OWN + 9);
-            c.rule(U, 21, spare == 0 ? YES : -1);
-            c.due(spare == 0 ? (Object) Calls.UNSUPPORTED : true).judge(S, FIRST_OWN + 9);
-        }
+        Calls c = tower(12);
+        c.rule(S, 21, T);
+        c.list(T, 29, U);
+        c.rule(U, 28, S);
+        c.due(true).judge(S, FIRST_OWN + 9);
+        c.due(Calls.UNSUPPORTED).judge(U, FIRST_OWN + 10);
+        c.due(true).judge(T, FIRST_OWN + 9);
+        c.due(Calls.UNSUPPORTED).judge(T, FIRST_OWN + 10);
+        // Pairs beside the chain do not make it longer, and one at its end does.
+        c.rule(S, 17, NO);
+        c.rule(S, 18, YES);
+        c.due(true).judge(S, FIRST_OWN + 9);
+        c.rule(U, 21, YES);
+        c.due(Calls.UNSUPPORTED).judge(S, FIRST_OWN + 9);
+        c.due(true).judge(T, FIRST_OWN + 9);
     }
 
     private static void fromThisOneOn() {
@@ -820,7 +854,7 @@ public final class JudgingBoundsTest {
         c.due(Calls.INDEX).fault(0);
     }
 
-    /** The elements stand in the row from the greatest one on, and the last one has schema 0. */
+    /** Not as they stand in the row, nor by their schemas first. */
     private static void orderOfValues() {
         Calls c = world();
         int last = c.make(Calls.NOTHING);

@@ -216,7 +216,8 @@ public final class KeywordBoundsTest {
 
     /** At the bound, the least step below it and above it, and at the ends of all numbers. */
     private static void bounds(int keyword) {
-        int[][] numbers = {{-99999, 3}, {-1001, -3}, {-1, 0}, {-999, -3}, {0, 0}, {999, -3}, {10, -1}, {1001, -3}, {99999, 3}};
+        int[][] numbers = {{-99999, 3}, {-1001, -3}, {-1, 0}, {-999, -3}, {0, 0}, {999, -3}, {10, -1}, {1001, -3},
+            {99999, 3}};
         for (int bound = 0; bound < numbers.length; bound++) {
             Calls c = world();
             for (int[] n : numbers) {
@@ -474,7 +475,7 @@ public final class KeywordBoundsTest {
         }
     }
 
-    /** A row of so many numbers and a text, and the fault is one of CONTAINS. */
+    /** A row of so many texts, and then so many numbers. */
     private static int rowOf(Calls c, int numbers, int texts) {
         int[] elements = new int[numbers + texts];
         Arrays.fill(elements, 0, texts, TEXT);
